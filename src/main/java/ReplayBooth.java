@@ -357,7 +357,7 @@ public final class ReplayBooth {
     }
 
     private void startAct() {
-        ahead[aheadNext].copyOf(day);
+        ahead[aheadNext].copyFrom(day);
         aheadNext = (aheadNext + 1) % MAX_UNDO;
         acts = Math.min(acts + 1, MAX_UNDO);
     }
@@ -591,7 +591,7 @@ public final class ReplayBooth {
             return NONE;
         }
         aheadNext = (aheadNext + MAX_UNDO - 1) % MAX_UNDO;
-        day.copyOf(ahead[aheadNext]);
+        day.copyFrom(ahead[aheadNext]);
         acts--;
         return acts;
     }
@@ -601,14 +601,14 @@ public final class ReplayBooth {
             return false;
         }
         if (!back) {
-            kept[k].copyOf(day);
+            kept[k].copyFrom(day);
             isKept[k] = true;
             return true;
         }
         if (!isKept[k]) {
             return false;
         }
-        day.copyOf(kept[k]);
+        day.copyFrom(kept[k]);
         acts = 0;
         return true;
     }
@@ -839,7 +839,7 @@ public final class ReplayBooth {
         int value;
         /** The NUMBER that was taken last. */
         int number;
-        /** 8 * place + kind. */
+        /** 8 * place + kind, once a part was not taken. */
         int fault;
         int names;
         final int[] nameCode = new int[MAX_NAMES];
@@ -857,7 +857,6 @@ public final class ReplayBooth {
             told = into;
             end = Math.min(bytes, tape.length);
             at = 0;
-            fault = 0;
             names = 0;
             settingsTold = 0;
             advance();
@@ -975,14 +974,14 @@ public final class ReplayBooth {
             return true;
         }
 
-        /** The number of the one asked for, which must not be unlike; NONE at a FAULT. The TOKEN stays. */
-        int findName(Token nameOf, int unlike) {
+        /** The number of the one asked for, which must be another one than this; NONE at a FAULT. The TOKEN stays. */
+        int findName(Token nameOf, int notThis) {
             if (token != Token.NAME) {
                 fail(NO_TEXT);
                 return NONE;
             }
             for (int i = 0; i < names; i++) {
-                if (nameCode[i] == value && nameSort[i] == nameOf && nameNumber[i] != unlike) {
+                if (nameCode[i] == value && nameSort[i] == nameOf && nameNumber[i] != notThis) {
                     return nameNumber[i];
                 }
             }
@@ -990,8 +989,8 @@ public final class ReplayBooth {
             return NONE;
         }
 
-        int takeName(Token nameOf, int unlike) {
-            int found = findName(nameOf, unlike);
+        int takeName(Token nameOf, int notThis) {
+            int found = findName(nameOf, notThis);
             if (found != NONE) {
                 advance();
             }
@@ -1282,7 +1281,7 @@ public final class ReplayBooth {
             torn = false;
         }
 
-        void copyOf(Bounds other) {
+        void copyFrom(Bounds other) {
             System.arraycopy(other.most, 0, most, 0, SIZE * SIZE);
             torn = other.torn;
         }
@@ -1342,7 +1341,7 @@ public final class ReplayBooth {
 
         /** Bounds by FLASHES and some FRAMES (bits), good until the next question. */
         Bounds sureOf(Told told, Play play, int frames) {
-            sure.copyOf(told.clocks);
+            sure.copyFrom(told.clocks);
             for (int k = 0; k < play.frames; k++) {
                 if ((frames >> k & 1) != 0) {
                     tellFrame(play, k);
@@ -1385,7 +1384,7 @@ public final class ReplayBooth {
         }
 
         private boolean canHold(Kind kind) {
-            trial.copyOf(sure);
+            trial.copyFrom(sure);
             for (int i = 0; i < kind.pairs; i++) {
                 trial.tell(Bounds.MARK + kind.first[i], Bounds.MARK + kind.second[i], -1);
             }
@@ -1539,7 +1538,7 @@ public final class ReplayBooth {
             logRows = 0;
         }
 
-        void copyOf(Day other) {
+        void copyFrom(Day other) {
             happened = other.happened;
             yes = other.yes;
             reviewed = other.reviewed;

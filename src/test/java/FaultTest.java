@@ -147,6 +147,17 @@ public final class FaultTest {
         fault("side a 1;side |a", 2);
         fault("side s 1;side |s .", 2);
         fine("side a 1;side aa 1;side aaa 1;", 0);
+        StringBuilder all = new StringBuilder();
+        for (char c = 'a'; c < 'f'; c++) {
+            all.append("camera ").append(c).append(" 1 1;kind k").append(c).append(" 1 0 before 1;");
+            all.append(c < 'e' ? "side s" + c + " 1;" : "").append(c < 'd' ? "board b" + c + " 1(a);" : "");
+        }
+        for (char c = 'a'; c < 'h'; c++) {
+            all.append("play p").append(c).append(" 1 ka sa 1 no e 1;");
+        }
+        fine(all + "play ph 1 ke sd 1 no;", 8);
+        fault(all + "play |pg 1 ke sd 1 no;", 2);
+        fault(all + "play |bc 1 ke sd 1 no;", 2);
     }
 
     private static void numbers() {

@@ -5,7 +5,7 @@ import java.util.Random;
 
 /** Long runs of calls on texts made at random (always the same ones), against Reference. */
 public final class ModelTest {
-    private static final int RUNS = 400;
+    private static final int RUNS = 900;
     private static final int CALLS = 505;
 
     private final Random dice;

@@ -606,6 +606,14 @@ public final class PromiseTest {
         due("r is put once more", x.play(2, 8), 1);
         due("q is reviewed once more", x.play(1, 7), 1);
         due("its points", x.side(0, 3), 6);
+        ReplayBooth v = Check.told("camera a 0 0;side s 3;kind k 20 again 0 before 1;window 2;"
+                + "play p 1 k s 5 yes a 10!1?0;play q 2 k s 3 no a 4!0?1;play r 2 k s 1 no;");
+        nexts(v, 2);
+        due("q is overturned", v.challenge(0, 1), 2);
+        due("p is overturned", v.challenge(0, 0), 2);
+        v.next();
+        due("q as told", v.play(1, 6), 0);
+        due("q is not reviewed", v.play(1, 7), 0);
         // a board's overturning begins nothing again
         ReplayBooth y = Check.told("camera a 0 0;side s 1;kind k 20 again 0 before 1;board c 1(a);"
                 + "play p 1 k s 5 yes a 10!1?0;play q 2 k s 3 no;");
@@ -663,6 +671,24 @@ public final class PromiseTest {
         nexts(z, 2);
         due("no challenge", z.put(0, 0), 1);
         due("nothing comes", z.side(0, 1) + z.side(1, 1), 3);
+        // undone, or gone back from, it was never gone
+        ReplayBooth u = Check.told(text);
+        nexts(u, 2);
+        u.keep(0, false);
+        u.challenge(0, 0);
+        u.undo();
+        due("put behind undo", u.put(0, 0), 1);
+        due("nothing comes", u.side(0, 1), 2);
+        u.undo();
+        u.challenge(0, 0);
+        u.keep(1, false);
+        u.keep(0, true);
+        due("put behind a keep", u.put(0, 0), 1);
+        due("nothing comes", u.side(0, 1), 2);
+        u.keep(1, true);
+        due("gone again", u.side(0, 1), 1);
+        due("put", u.put(0, 0), 1);
+        due("it comes back", u.side(0, 1), 2);
         // since it happened last: the challenge that was gone before the restart does not come back
         ReplayBooth w = Check.told("camera a 0 0;side s 3;kind k 50 0 before 1;kind j 1 again 1 before 0;board c 1(a);"
                 + "window 9;play o 1 j s 1 yes a 1!0?1;play p 1 k s 5 no a 1!0 a 1?1;");
