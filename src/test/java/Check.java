@@ -7,15 +7,24 @@ final class Check {
         long answer();
     }
 
+    private static final int MOST_TOLD = 40;
+
     private static int wrong;
+    private static int sentences;
+    private static String sentence = "";
 
     private Check() {
     }
 
+    /** The sentence of the document to which the answers are held from here on. */
+    static void sentence(String words) {
+        sentence = "\"" + words + "\": ";
+        sentences++;
+    }
+
     static void due(String call, long got, long want) {
         if (got != want) {
-            wrong++;
-            System.out.println(call + " answered " + got + ", due is " + want);
+            fail(call + " answered " + got + ", due is " + want);
         }
     }
 
@@ -32,14 +41,20 @@ final class Check {
             got = e.getClass() == NoSuchElementException.class ? "" : e.toString();
         }
         if (!got.isEmpty()) {
-            wrong++;
-            System.out.println(call + ": " + got + ", due is a NoSuchElementException");
+            fail(call + ": " + got + ", due is a NoSuchElementException");
         }
     }
 
     static void fail(String what) {
         wrong++;
-        System.out.println(what);
+        if (wrong <= MOST_TOLD) {
+            System.out.println(sentence + what);
+        }
+    }
+
+    /** Numbers that are none of so many: one too small, one too large, and the ends of int. */
+    static int[] noneOf(int count) {
+        return new int[] {-1, count, Integer.MIN_VALUE, Integer.MAX_VALUE};
     }
 
     /** Puts the text on the tape, which is empty, in portions of twenty bytes. */
@@ -63,15 +78,63 @@ final class Check {
     static ReplayBooth told(String text) {
         ReplayBooth x = new ReplayBooth();
         int answer = tell(x, text);
-        if (answer < 0) {
+        if (answer == -1) {
+            fail("too long: " + text);
+        } else if (answer < 0) {
             int fault = -2 - answer;
             fail("a fault of kind " + (fault & 7) + " at " + (fault >> 3) + " in: " + text);
         }
         return x;
     }
 
+    /** The bar in the text is the place of the fault, and no part of it. */
+    static void fault(String marked, int kind) {
+        int place = marked.indexOf('|');
+        String text = marked.substring(0, place) + marked.substring(place + 1);
+        ReplayBooth x = new ReplayBooth();
+        due(marked, tell(x, text), -2 - (8 * place + kind));
+        due("the tape behind " + marked, x.count(9), 0);
+    }
+
+    static void fine(String text, int plays) {
+        due(text, tell(new ReplayBooth(), text), plays);
+    }
+
+    /** All that can be seen of THE DAY, and how much can be UNDONE; 150 calls at most. */
+    static String day(ReplayBooth x) {
+        StringBuilder seen = new StringBuilder();
+        seen.append("happened ").append(x.count(6)).append(" undo ").append(x.count(8)).append(" extra ").append(x.extra());
+        for (int side = 0; side < x.count(2); side++) {
+            seen.append(" side");
+            for (int what = 1; what <= 3; what++) {
+                seen.append(' ').append(x.side(side, what));
+            }
+        }
+        for (int play = 0; play < x.count(5); play++) {
+            seen.append(" play");
+            for (int what = 6; what <= 8; what++) {
+                seen.append(' ').append(x.play(play, what));
+            }
+            seen.append(" minute ").append(x.seconds(x.play(play, 0)));
+        }
+        for (int ago = 0; ago < x.count(7); ago++) {
+            seen.append(" row");
+            for (int what = 0; what <= 3; what++) {
+                seen.append(' ').append(x.log(ago, what));
+            }
+        }
+        return seen.toString();
+    }
+
+    static void sameDay(String when, String got, String want) {
+        if (!got.equals(want)) {
+            fail(when + " the day is: " + got + "; due is: " + want);
+        }
+    }
+
     static void end(String name) {
-        System.out.println(name + ": " + (wrong == 0 ? "all as due" : wrong + " not as due"));
+        String held = sentences == 0 ? "" : " (" + sentences + " sentences)";
+        System.out.println(name + ": " + (wrong == 0 ? "all as due" : wrong + " not as due") + held);
         if (wrong != 0) {
             System.exit(1);
         }

@@ -15,17 +15,12 @@ public final class FaultTest {
         Check.end("FaultTest");
     }
 
-    /** The bar in the text is the place of the fault, and no part of it. */
     private static void fault(String marked, int kind) {
-        int place = marked.indexOf('|');
-        String text = marked.substring(0, place) + marked.substring(place + 1);
-        ReplayBooth x = new ReplayBooth();
-        Check.due(marked, Check.tell(x, text), -2 - (8 * place + kind));
-        Check.due("the tape behind " + marked, x.count(9), 0);
+        Check.fault(marked, kind);
     }
 
     private static void fine(String text, int plays) {
-        Check.due(text, Check.tell(new ReplayBooth(), text), plays);
+        Check.fine(text, plays);
     }
 
     private static void tokens() {
