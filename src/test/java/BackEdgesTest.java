@@ -89,7 +89,7 @@ public final class BackEdgesTest {
         String before = Check.day(x);
         due("none", x.undo(), -1);
         due("none once more", x.undo(), -1);
-        Check.sameDay("behind a refused undo", Check.day(x), before);
+        Check.same("behind a refused undo", Check.day(x), before);
         due("it can go on", x.next(), 3);
         due("that can be undone", x.undo(), 0);
     }
@@ -167,7 +167,7 @@ public final class BackEdgesTest {
             for (int i = 9; i >= act; i--) {
                 x.undo();
             }
-            Check.sameDay("undone to " + act, Check.day(x), days[act]);
+            Check.same("undone to " + act, Check.day(x), days[act]);
         }
         due("none more", first.undo(), -1);
     }
@@ -192,7 +192,7 @@ public final class BackEdgesTest {
         due("begins again", x.challenge(1, 0), 2);
         due("happened", x.count(6), 1);
         due("undone", x.undo(), 6);
-        Check.sameDay("undone", Check.day(x), before);
+        Check.same("undone", Check.day(x), before);
         due("q's call", x.play(1, 6), 1);
         due("q was reviewed", x.challenge(0, 1), -2);
         due("r was put", x.put(0, 2), -2);
@@ -245,7 +245,7 @@ public final class BackEdgesTest {
             ReplayBooth x = happened(2);
             String before = Check.day(x);
             Check.due("back " + k, x.keep(k, true), false);
-            Check.sameDay("behind a refused keep", Check.day(x), before);
+            Check.same("behind a refused keep", Check.day(x), before);
             Check.due("the other one laid", x.keep(1 - k, false), true);
             Check.due("back " + k, x.keep(k, true), false);
             due("acts stay", x.undo(), 1);
@@ -267,7 +267,7 @@ public final class BackEdgesTest {
         x.next();
         x.put(0, 1);
         Check.due("back", x.keep(0, true), true);
-        Check.sameDay("back", Check.day(x), before.replace("undo 5", "undo 0"));
+        Check.same("back", Check.day(x), before.replace("undo 5", "undo 0"));
         due("undo", x.undo(), -1);
         x.put(0, 0);
         due("acts from there on", x.count(8), 1);

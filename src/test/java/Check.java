@@ -126,9 +126,9 @@ final class Check {
         return seen.toString();
     }
 
-    static void sameDay(String when, String got, String want) {
+    static void same(String when, String got, String want) {
         if (!got.equals(want)) {
-            fail(when + " the day is: " + got + "; due is: " + want);
+            fail(when + ": " + got + "; due is: " + want);
         }
     }
 

@@ -39,6 +39,7 @@ public final class DayEdgesTest {
         comesBack();
         comesBackOfItsReview();
         comesBackSince();
+        comesBackUndone();
         votes();
         pivot();
         boards();
@@ -164,6 +165,23 @@ public final class DayEdgesTest {
         x.undo();
         due("q has not, undone", x.play(1, 6), -2);
         due("as told", x.play(1, 4), 1);
+        Check.sentence("play: 1 it was REVIEWED, 0 not; 1 it was put to a BOARD, 0 not");
+        ReplayBooth y = Check.told(HEAD + "board c 9(a);" + plays("k", "s", many(4, "no;")) + "play z 1 f s 1 no;window 9;");
+        for (int i = 0; i < 5; i++) {
+            due("not yet reviewed", y.play(i, 7), 0);
+            due("not yet put", y.play(i, 8), 0);
+            y.next();
+        }
+        y.challenge(0, 0);
+        y.put(0, 0);
+        y.challenge(0, 1);
+        y.put(0, 2);
+        int[] reviewed = {1, 1, 0, 0, 1};
+        int[] put = {1, 0, 1, 0, 0};
+        for (int i = 0; i < 5; i++) {
+            due("reviewed " + i, y.play(i, 7), reviewed[i]);
+            due("put " + i, y.play(i, 8), put[i]);
+        }
     }
 
     private static void frame() {
@@ -204,7 +222,7 @@ public final class DayEdgesTest {
         String before = Check.day(x);
         due("a ninth", x.next(), -1);
         due("once more", x.next(), -1);
-        Check.sameDay("behind the last", Check.day(x), before);
+        Check.same("behind the last", Check.day(x), before);
         due("of one", Check.told(HEAD + plays("k", "s", "no;")).next(), 3);
         Check.sentence("next: 3 it is not REVIEWED, else 0 it STANDS, 1 CONFIRMED, 2 OVERTURNED");
         ReplayBooth y = Check.told(HEAD + plays("f", "s", "no" + IS_OPEN, "yes" + IS_TORN, "no" + IS_NO, "yes" + IS_YES,
@@ -457,6 +475,22 @@ public final class DayEdgesTest {
         due("p has happened", x.play(1, 6), 0);
         due("and was reviewed", x.play(1, 7), 1);
         due("points", x.side(0, 3), 8);
+        Check.sentence("a RE-START: PLAYS ahead of it stay as they are");
+        ReplayBooth y = happened(HEAD + "board c 1(a);window 9;" + plays("k", "s", many(4, "no" + IS_YES))
+                + "play z 1 g s 1 no" + IS_YES + "play y 1 k s 1 no;", 6);
+        y.challenge(0, 0);
+        y.put(0, 1);
+        due("z is overturned", y.challenge(0, 4), 2);
+        int[] calls = {1, 1, 0, 0, 1, -2};
+        int[] reviewed = {1, 0, 0, 0, 1, 0};
+        int[] boarded = {0, 1, 0, 0, 0, 0};
+        for (int play = 0; play < 6; play++) {
+            due("call of " + play, y.play(play, 6), calls[play]);
+            due("reviewed " + play, y.play(play, 7), reviewed[play]);
+            due("put " + play, y.play(play, 8), boarded[play]);
+        }
+        due("one that was neither can be challenged", y.challenge(0, 2), 2);
+        due("one that was neither can be put", y.put(0, 3), 1);
     }
 
     private static void restartIfAgain() {
@@ -522,6 +556,7 @@ public final class DayEdgesTest {
         due("not overturned", x.put(1, 1), 0);
         due("to the same board", x.put(1, 1), -2);
         due("to the other board", x.put(0, 1), -2);
+        due("the first one still", x.put(0, 0), -2);
         due("its call", x.play(1, 6), 0);
         x.undo();
         due("undone it can be once more", x.put(0, 1), 1);
@@ -621,6 +656,24 @@ public final class DayEdgesTest {
         due("the first one is back", x.side(0, 1), 2);
     }
 
+    private static void comesBackUndone() {
+        Check.sentence("a CHALLENGE whose REVIEW is UNDONE, or gone back from, does not come back");
+        ReplayBooth x = happened(LIMITED + plays("k", "s", "no a 5!0 a 5?1;"), 1);
+        x.keep(0, false);
+        due("it stands", x.challenge(0, 0), 0);
+        x.keep(1, false);
+        due("undone", x.undo(), 1);
+        due("put", x.put(0, 0), 1);
+        due("none comes", x.side(0, 1), 2);
+        x.keep(1, true);
+        due("gone, gone back to", x.side(0, 1), 1);
+        due("put", x.put(0, 0), 1);
+        due("it comes back", x.side(0, 1), 2);
+        x.keep(0, true);
+        due("put", x.put(0, 0), 1);
+        due("none comes", x.side(0, 1), 2);
+    }
+
     // ---- promises 20 to 22
 
     private static void votes() {
@@ -704,13 +757,13 @@ public final class DayEdgesTest {
         for (int[] c : challenges) {
             due("challenge " + c[0] + " " + c[1], x.challenge(c[0], c[1]) < 0 ? 1 : 0, 1);
         }
-        Check.sameDay("behind refused challenges", Check.day(x), before);
+        Check.same("behind refused challenges", Check.day(x), before);
         Check.sentence("a refused put changes nothing and is no ACT");
         int[][] puts = {{0, 1}, {0, 3}, {1, 0}, {-1, 0}, {0, 4}, {0, -1}};
         for (int[] p : puts) {
             due("put " + p[0] + " " + p[1], x.put(p[0], p[1]) < 0 ? 1 : 0, 1);
         }
-        Check.sameDay("behind refused puttings", Check.day(x), before);
+        Check.same("behind refused puttings", Check.day(x), before);
         due("the latest act is the last one that could be", x.undo(), 4);
         due("it was the put", x.play(1, 8), 0);
         due("the challenge is left", x.play(2, 7), 1);

@@ -251,6 +251,11 @@ public final class LineEdgesTest {
             all.append("play p").append(c).append(" 1 ke sd 1 no;");
         }
         Check.fine(all.toString(), 8);
+        Check.fine(all + "flash e 1 a 1;flash a 1 e 1;", 8);
+        String camera = "camera e 1 1;";
+        String lastTold = all.toString().replace(camera, "") + camera;
+        Check.fine(lastTold + "flash a 1 e 1;", 8);
+        Check.fault(lastTold + "flash a 1 |ph 1;", 4);
         for (String line : new String[] {"camera", "side", "kind", "board", "play"}) {
             Check.fault(all + "|" + line + " z", 5);
         }
@@ -293,6 +298,7 @@ public final class LineEdgesTest {
             for (String other : new String[] {"limit", "bonus", "last", "window"}) {
                 if (!other.equals(own)) {
                     Check.fine(own + " 5;" + other + " 6;", 0);
+                    Check.fault(own + " 5;" + other + " 6;|" + own + " 5;", 5);
                 }
             }
             ReplayBooth x = Check.told(own + " 5;");
@@ -315,6 +321,7 @@ public final class LineEdgesTest {
         due("kind of play 0", x.play(0, 1), 1);
         due("side of play 0", x.play(0, 2), 1);
         due("kind of play 1", x.play(1, 1), 0);
+        due("side of play 1", x.play(1, 2), 0);
         due("frame 0", x.frame(0, 0, 0), 1);
         due("frame 1", x.frame(0, 1, 0), 0);
         due("board 0", x.votes(0, 1), 1);

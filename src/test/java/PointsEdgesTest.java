@@ -131,7 +131,7 @@ public final class PointsEdgesTest {
         due("s now", x.side(0, 3), 8);
         String before = Check.day(x);
         due("s", x.left(0), 0);
-        Check.sameDay("behind left", Check.day(x), before);
+        Check.same("behind left", Check.day(x), before);
         due("t", x.left(1), 0);
     }
 
@@ -180,9 +180,10 @@ public final class PointsEdgesTest {
 
     private static void needBonus() {
         Check.sentence("need: a CHALLENGE more comes, if bonus is not 0 and divides WON");
-        String[] plays = {"wl", "wll", "wlll", "wwll", "wwll", "wwlll", "wwwll", "lww", "lwwll", "wlwll"};
-        int[] bonus = {1, 1, 1, 1, 2, 2, 3, 2, 2, 2};
-        int[] needs = {1, 1, 2, 1, 1, 2, 1, 2, 2, 2};
+        String[] plays = {"wl", "wll", "wlll", "wwll", "wwll", "wwlll", "wwwll", "lww", "lwwll", "wlwll",
+            "wll", "wwll", "wwwll"};
+        int[] bonus = {1, 1, 1, 1, 2, 2, 3, 2, 2, 2, 2, 3, 4};
+        int[] needs = {1, 1, 2, 1, 1, 2, 1, 2, 2, 2, 2, 2, 2};
         for (int i = 0; i < plays.length; i++) {
             due(plays[i] + " bonus " + bonus[i], Check.told(challenged(plays[i]) + "bonus " + bonus[i] + ";").need(0),
                     needs[i]);
@@ -198,7 +199,7 @@ public final class PointsEdgesTest {
         x.challenge(0, 0);
         String before = Check.day(x);
         due("need still", x.need(0), 3);
-        Check.sameDay("behind need", Check.day(x), before);
+        Check.same("behind need", Check.day(x), before);
     }
 
     // ---- promises 28 and 29
@@ -377,11 +378,18 @@ public final class PointsEdgesTest {
             due("by " + ago, y.log(ago, 1), bys[ago]);
         }
         Check.none("no 17th", () -> y.log(16, 0));
-        for (int play = 7; play >= 1; play--) {
+        y.undo();
+        due("undone, sixteen rows still", y.count(7), 16);
+        due("the oldest, undone", y.log(15, 0), 6);
+        for (int play = 6; play >= 1; play--) {
             y.undo();
         }
         due("undone, the ones that were too old are there again", y.count(7), 15);
-        due("the oldest", y.log(14, 0), 1);
+        int[] undone = {0, 7, 6, 5, 4, 3, 2, 1, 7, 6, 5, 4, 3, 2, 1};
+        for (int ago = 0; ago < 15; ago++) {
+            due("play " + ago + ", undone", y.log(ago, 0), undone[ago]);
+            due("seconds " + ago + ", undone", y.log(ago, 3), ago == 0 ? 2 : ago < 8 ? 0 : 1);
+        }
     }
 
     // ---- promises 31 and 32

@@ -530,7 +530,7 @@ public final class SureEdgesTest {
         for (int what = -1; what < 4; what++) {
             x.look(0, what);
         }
-        Check.sameDay("behind look", Check.day(x), before);
+        Check.same("behind look", Check.day(x), before);
         Check.sentence("look: NONE: others, none such");
         for (int what = 0; what < 3; what++) {
             for (int none : Check.noneOf(2)) {

@@ -19,6 +19,7 @@ public final class TapeEdgesTest {
         textHowManyPlays();
         textForgets();
         textOfAFault();
+        textOfNothingAhead();
         blanks();
         words();
         numberTokens();
@@ -176,7 +177,7 @@ public final class TapeEdgesTest {
         x.keep(1, false);
         Check.sentence("text: nothing has happened");
         due("the same once more", Check.tell(x, text), 2);
-        Check.sameDay("told anew", Check.day(x), before);
+        Check.same("told anew", Check.day(x), before);
         Check.sentence("text: nothing can be UNDONE");
         due("undo", x.undo(), -1);
         Check.sentence("text: nothing is KEPT");
@@ -203,7 +204,7 @@ public final class TapeEdgesTest {
         String other = "camera z 1 1;side y 1;kind x 9 1 before 2;board w 2(z);"
                 + "play v 1 x y 1 yes z 1!2;limit 4;bonus 4;last 4;window 4;flash";
         due("a fault behind all", Check.tell(x, other), -2 - (8 * other.length() + 1));
-        Check.sameDay("behind a fault", Check.day(x), before);
+        Check.same("behind a fault", Check.day(x), before);
         int[] counts = {2, 0, 1, 1, 1, 2, 2, 1, 3, 0, 1, 60, 1, 1000, 7};
         for (int what = 0; what < counts.length; what++) {
             due("count " + what, x.count(what), counts[what]);
@@ -216,6 +217,59 @@ public final class TapeEdgesTest {
         Check.due("the keep", x.keep(1, true), true);
         Check.due("the empty keep", x.keep(0, true), false);
         due("happened", x.count(6), 1);
+    }
+
+    /** All that can be seen of a small TEXT: some hundred calls. */
+    private static String seen(ReplayBooth x) {
+        StringBuilder seen = new StringBuilder();
+        for (int what = 0; what < 15; what++) {
+            seen.append(what == 9 || what == 10 ? "" : " count " + x.count(what));
+        }
+        for (int what = 0; what < 4; what++) {
+            for (int i = 0; i < 2; i++) {
+                seen.append(' ').append(x.camera(i, what)).append(' ').append(x.kind(i, what)).append(' ').append(x.side(i, what));
+                seen.append(' ').append(x.frame(i, 0, what)).append(' ').append(x.frame(i, 1, what));
+            }
+        }
+        for (int play = 0; play < 2; play++) {
+            for (int what = 0; what < 9; what++) {
+                seen.append(' ').append(x.play(play, what));
+            }
+            seen.append(' ').append(x.verdict(play, 2)).append(' ').append(x.fewest(play)).append(' ').append(x.mend(play));
+            seen.append(' ').append(x.votes(0, play)).append(' ').append(x.boards(play)).append(' ').append(x.look(play, 1));
+        }
+        return seen.toString();
+    }
+
+    private static void textOfNothingAhead() {
+        Check.sentence("text: the TEXT from now on: nothing is left of those ahead");
+        String large = "camera a 1 9;camera b 9 9;camera e 3 4;side s 9;side t 8;side u 7;limit 9;bonus 9;last 9;window 9;"
+                + "kind k 9 forced again 0 before 1 and 1 before 2 and 2 before 3;kind l 8 forced again 3 before 2;"
+                + "flash a 1 b 99;board c 9(a)(b)(e)(a)(b)(a)(e);board d 9(a)(b)(e)(a)(b)(a)(b);"
+                + "play p 9 l t 9 yes a 9!0!1!2!3 a 8!0!1!2!3 a 7?0;play q 9 l t 9 yes e 9!0!1!2!3 e 8?1 e 1!1;";
+        String small = "camera a 1 1;camera b 0 2;side s 1;side v 2;kind k 20 0 before 1;kind m 10 1 before 0;board c 1(b)(a);"
+                + "play p 1 k s 3 no a 5!0 a 6?1;play q 2 m v 4 yes b 5?0 a 8!0;";
+        String fresh = seen(Check.told(small));
+        ReplayBooth x = new ReplayBooth();
+        for (int i = 0; i < 3; i++) {
+            due("a large one", Check.tell(x, large), 2);
+        }
+        for (int i = 0; i < 2; i++) {
+            due("a small one", Check.tell(x, small), 2);
+            Check.same("behind a large one", seen(x), fresh);
+        }
+        ReplayBooth y = new ReplayBooth();
+        for (int i = 0; i < 2; i++) {
+            due("a fault", Check.tell(y, large + "."), -2 - (8 * large.length() + 1));
+            due("a small one", Check.tell(y, small), 2);
+            Check.same("behind a fault", seen(y), fresh);
+        }
+        Check.sentence("a NAME of a TEXT ahead is none of this one");
+        due("a camera", Check.tell(x, "flash a"), -2 - (8 * 6 + 4));
+        due("a kind", Check.tell(x, "play p 1 k"), -2 - (8 * 9 + 4));
+        due("all names anew", Check.tell(x, small), 2);
+        due("a second camera", Check.tell(x, "camera b 1 1;flash b 1 a"), -2 - (8 * 23 + 4));
+        due("a side", Check.tell(x, "camera z 1 1;kind k 1 0 before 1;play p 1 k s"), -2 - (8 * 44 + 4));
     }
 
     // ---- tokens
