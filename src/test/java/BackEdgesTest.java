@@ -37,11 +37,7 @@ public final class BackEdgesTest {
     }
 
     private static ReplayBooth happened(int times) {
-        ReplayBooth x = Check.told(EIGHT);
-        for (int i = 0; i < times; i++) {
-            x.next();
-        }
-        return x;
+        return Check.happened(EIGHT, times);
     }
 
     // ---- promise 1

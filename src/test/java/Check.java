@@ -132,6 +132,15 @@ final class Check {
         }
     }
 
+    /** A new object that is told a text, of which so many PLAYS happen. */
+    static ReplayBooth happened(String text, int times) {
+        ReplayBooth x = told(text);
+        for (int i = 0; i < times; i++) {
+            x.next();
+        }
+        return x;
+    }
+
     static void end(String name) {
         String held = sentences == 0 ? "" : " (" + sentences + " sentences)";
         System.out.println(name + ": " + (wrong == 0 ? "all as due" : wrong + " not as due") + held);

@@ -68,11 +68,7 @@ public final class DayEdgesTest {
     }
 
     private static ReplayBooth happened(String text, int times) {
-        ReplayBooth x = Check.told(text);
-        for (int i = 0; i < times; i++) {
-            x.next();
-        }
-        return x;
+        return Check.happened(text, times);
     }
 
     // ---- promises 5 to 8

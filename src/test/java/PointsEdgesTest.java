@@ -43,11 +43,7 @@ public final class PointsEdgesTest {
     }
 
     private static ReplayBooth happened(String text, int times) {
-        ReplayBooth x = Check.told(text);
-        for (int i = 0; i < times; i++) {
-            x.next();
-        }
-        return x;
+        return Check.happened(text, times);
     }
 
     // ---- promises 23 to 25
