@@ -23,6 +23,7 @@ public final class ReplayBooth {
     private static final int MAX_UNDO = 12;
     private static final int KEEPS = 2;
     private static final int MARKS = 4;
+    private static final int MAX_LATE = 999;
     private static final int MAX_TICK = 999;
     private static final int MAX_MINUTE = 999;
 
@@ -418,27 +419,20 @@ public final class ReplayBooth {
     // ---- points
 
     public int truth(int side) {
-        if (!isSide(side)) {
-            return NONE;
-        }
-        int points = 0;
-        for (int p = 0; p < told.plays; p++) {
-            Play play = told.play[p];
-            if (play.side == side && judge.trueCall(told, play, play.call) == YES) {
-                points += play.points;
-            }
-        }
-        return points;
+        return isSide(side) ? pointsInTruth(side, NONE) : NONE;
     }
 
     public int range(int side, boolean most) {
-        if (!isSide(side)) {
-            return NONE;
-        }
+        return isSide(side) ? pointsInTruth(side, most ? YES : NO) : NONE;
+    }
+
+    /** POINTS by all FRAMES; a PLAY that is not sure by them has the call unsure, or (NONE) its own. */
+    private int pointsInTruth(int side, int unsure) {
         int points = 0;
         for (int p = 0; p < told.plays; p++) {
             Play play = told.play[p];
-            if (play.side == side && judge.trueCall(told, play, most ? YES : NO) == YES) {
+            int otherwise = unsure == NONE ? play.call : unsure;
+            if (play.side == side && judge.trueCall(told, play, otherwise) == YES) {
                 points += play.points;
             }
         }
@@ -1083,11 +1077,11 @@ public final class ReplayBooth {
 
         boolean tellCamera() {
             int camera = told.cameras;
-            if (!giveName(Token.CAMERA, camera) || !takeNumber(0, MAX_TICK)) {
+            if (!giveName(Token.CAMERA, camera) || !takeNumber(0, MAX_LATE)) {
                 return false;
             }
             told.lateLeast[camera] = number;
-            if (!takeNumber(number, MAX_TICK)) {
+            if (!takeNumber(number, MAX_LATE)) {
                 return false;
             }
             told.lateMost[camera] = number;
@@ -1391,17 +1385,13 @@ public final class ReplayBooth {
             return !trial.torn;
         }
 
-        int byAll(Told told, Play play) {
-            return byFrames(told, play, play.allFrames());
-        }
-
         private static boolean isSure(int verdict) {
             return verdict == YES || verdict == NO;
         }
 
         /** The call that a PLAY is by all its FRAMES, or another one if that is OPEN or TORN. */
         int trueCall(Told told, Play play, int otherwise) {
-            int verdict = byAll(told, play);
+            int verdict = byFrames(told, play, play.allFrames());
             return isSure(verdict) ? verdict : otherwise;
         }
 
@@ -1413,11 +1403,11 @@ public final class ReplayBooth {
         }
 
         private int searchFewest(Told told, Play play) {
-            int whole = byAll(told, play);
+            int all = play.allFrames();
+            int whole = byFrames(told, play, all);
             if (!isSure(whole)) {
                 return CANNOT;
             }
-            int all = play.allFrames();
             for (int size = 0; size < play.frames; size++) {
                 for (int set = 0; set <= all; set++) {
                     if (Integer.bitCount(set) == size && byFrames(told, play, set) == whole) {
@@ -1429,12 +1419,13 @@ public final class ReplayBooth {
         }
 
         int keyFrames(Told told, Play play) {
-            if (!isSure(byAll(told, play))) {
+            int all = play.allFrames();
+            if (!isSure(byFrames(told, play, all))) {
                 return CANNOT;
             }
             int bits = 0;
             for (int k = 0; k < play.frames; k++) {
-                if (byFrames(told, play, play.allFrames() & ~(1 << k)) == OPEN) {
+                if (byFrames(told, play, all & ~(1 << k)) == OPEN) {
                     bits |= 1 << k;
                 }
             }
@@ -1442,7 +1433,7 @@ public final class ReplayBooth {
         }
 
         int fewestCameras(Told told, Play play) {
-            int whole = byAll(told, play);
+            int whole = byFrames(told, play, play.allFrames());
             if (!isSure(whole)) {
                 return CANNOT;
             }

@@ -734,11 +734,35 @@ public final class DayEdgesTest {
         x.challenge(0, 0);
         due("behind a challenge", x.boards(0), 0);
         due("no boards", Check.told(HEAD + plays("k", "s", "no" + IS_YES)).boards(0), 0);
+        boardsBehindABoard();
         Check.sentence("boards: NONE: none such");
         for (int none : Check.noneOf(4)) {
             due("play " + none, x.boards(none), -1);
         }
         due("of a new object", new ReplayBooth().boards(0), -1);
+    }
+
+    private static void boardsBehindABoard() {
+        Check.sentence("votes, pivot, boards: would .. now: of a PLAY that was put to a BOARD, too");
+        ReplayBooth x = happened(HEAD + "board c 1(a);board d 1(b);board e 2(a);"
+                + plays("k", "s", "no a 5!0?1 b 5?0!1;"), 1);
+        due("ahead", x.boards(0), 1);
+        due("put to the one that does not overturn", x.put(2, 0), 0);
+        due("boards", x.boards(0), 1);
+        due("votes", x.votes(0, 0), 1);
+        due("pivot", x.pivot(0, 0), 1);
+        due("it can't be put once more", x.put(0, 0), -2);
+        x.undo();
+        due("put to the one that overturns", x.put(0, 0), 1);
+        due("boards, against the call now", x.boards(0), 2);
+        due("votes, against the call now", x.votes(1, 0), 1);
+        due("pivot, against the call now", x.pivot(1, 0), 1);
+        Check.sentence("votes, pivot, boards: would .. now: of a PLAY that was REVIEWED, too");
+        ReplayBooth y = happened(HEAD + "limit 0;board c 1(a);" + plays("k", "s", "no" + IS_YES), 1);
+        due("it stands", y.challenge(0, 0), 0);
+        due("boards", y.boards(0), 1);
+        due("votes", y.votes(0, 0), 1);
+        due("pivot", y.pivot(0, 0), 1);
     }
 
     // ---- refused calls

@@ -26,6 +26,7 @@ public final class PointsEdgesTest {
         needAnew();
         seconds();
         secondsOfAll();
+        secondsOfMost();
         extra();
         extraOfEach();
         logRows();
@@ -129,6 +130,9 @@ public final class PointsEdgesTest {
         due("s", x.left(0), 0);
         Check.same("behind left", Check.day(x), before);
         due("t", x.left(1), 0);
+        ReplayBooth y = happened(HEAD + "play p 1 f s 3 no" + IS_YES, 1);
+        due("overturned at once", y.side(0, 3), 3);
+        due("reviewed of its call as told", y.left(0), 3);
     }
 
     private static void needAgainst() {
@@ -237,6 +241,31 @@ public final class PointsEdgesTest {
         x.undo();
         x.undo();
         due("r undone", x.seconds(4), 35);
+    }
+
+    private static void secondsOfMost() {
+        Check.sentence("RE-START: they can happen once more; CHALLENGES, WON, SECONDS stay");
+        StringBuilder text = new StringBuilder("camera a 0 0;side s 1;limit 999;window 9;kind g 60 again 0 before 1;");
+        for (char c = 'a'; c < 'h'; c++) {
+            text.append("play x").append(c).append(" 999 g s 1 no").append(" a 1".repeat(9)).append(IS_YES);
+        }
+        ReplayBooth x = Check.told(text.toString());
+        restartEach(x, 0, 7);
+        due("seconds of 127 reviews of 600", x.seconds(999), 76200);
+        due("whole minutes of them", x.extra(), 1270);
+        due("won", x.side(0, 2), 127);
+        due("left", x.side(0, 1), 1);
+    }
+
+    /** Each play from this one on is overturned behind all that can happen behind it, which begins again. */
+    private static void restartEach(ReplayBooth x, int play, int plays) {
+        if (play == plays) {
+            return;
+        }
+        due("next", x.next(), 3);
+        restartEach(x, play + 1, plays);
+        due("challenge " + play, x.challenge(0, play), 2);
+        restartEach(x, play + 1, plays);
     }
 
     private static void extra() {
